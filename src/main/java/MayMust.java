@@ -16,7 +16,7 @@ public final class MayMust {
     private static final int MOST_GONE = 200;
     private static final int FAULT_AT_0 = -10;
 
-    // Kinds of tokens; a sign such as ';' is its own kind, so these stay below all signs.
+    // Kinds of tokens; a sign such as ';' is its own kind, and all signs are above these.
     private static final int END = 0;
     private static final int WRONG = 1;
     private static final int NUMBER = 2;
@@ -26,7 +26,7 @@ public final class MayMust {
     private static final int WORD_MUST = 6;
     private static final String SIGNS = ";|&!()<>[]";
 
-    // Steps of a saying, in the order in which they are worked out: a part stands ahead of what is made of it.
+    // Steps of a saying; a part stands ahead of what is made of it, so a stack works them out in order.
     private static final int STEP_0 = 0;
     private static final int STEP_1 = 1;
     private static final int STEP_NOT = 2;
@@ -453,7 +453,7 @@ public final class MayMust {
             return true;
         }
 
-        /** Passes a number or a letter by and tells it; -1 where another token stands, or one out of bounds. */
+        /** Passes a number or a letter by and tells it; -1 where it is another token or out of bounds. */
         int takeWorth(int kind, int least, int most) {
             int worth = here < size ? worths[here] : 0;
             if (kind() != kind || worth < least || worth > most) {
@@ -531,7 +531,7 @@ public final class MayMust {
         }
     }
 
-    /** Reads texts as plans and sayings; a read method that answers false leaves the faulty token as the next one. */
+    /** Reads texts as plans and sayings; where a read method answers false, the next token is the faulty one. */
     private static final class Reader {
         private final Tokens tokens = new Tokens();
 

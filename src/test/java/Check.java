@@ -57,6 +57,8 @@ final class Check {
 
     void looks(String call, MayMust x, int i, String want) {
         String got = look(x, i);
+        due("after " + call + " states(" + i + ", 1)", want.split("must").length - 1, x.states(i, 1));
+        due("after " + call + " states(" + i + ", 2)", want.split("may").length - 1, x.states(i, 2));
         asked++;
         if (!got.equals(want)) {
             wrong++;

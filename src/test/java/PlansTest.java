@@ -126,6 +126,8 @@ public final class PlansTest {
             "states 2;Must 0 a 1;", "states 2;may 0 A 1;", "states 2;must 0 a 1;may", "states 2,",
             "states 2;" + (char) 0, "states 2;" + (char) 255, "states 1;may 0 a 1;", "a", "states 2;b",
             "states 2;may 0 a 1; 1", "states 2;may 0 statesa 1;", "states 2 may", "states 2;0 a 1;",
+            "xtates 2;", "states 2;nay 0 a 1;", "states 2;bust 0 a 1;", "states 19;", "states 2;may 19 a 0;",
+            "states 2;mayz 0 a 1;", "states 2;may` 0 a 1;", "states 2;may{ 0 a 1;", "states 2;may/ 0 a 1;", "states 2:",
         };
         int[] places = {
             0, 3, 0, 0, 0, 0, 0, 0,
@@ -140,6 +142,8 @@ public final class PlansTest {
             9, 15, 23, 8,
             9, 9, 17, 0, 9,
             20, 15, 9, 9,
+            0, 9, 9, 7, 13,
+            9, 12, 12, 12, 8,
         };
         CHECK.due("rows", texts.length, places.length);
         for (int k = 0; k < texts.length; k++) {
@@ -170,6 +174,8 @@ public final class PlansTest {
         CHECK.due("ten <", 1, Check.say(x, "<a><a><a><a><a><a><a><a><a><a>1"));
         CHECK.due("ten [", 1, Check.say(x, "[a][a][a][a][a][a][a][a][a][a]1"));
         CHECK.due("mixed", 1, Check.say(x, "!(<a>[b]!(<c>[a]!(1)))"));
+        String ten = "((((((((((1))))))))))|";
+        CHECK.due("300 tokens", 14, Check.say(x, ten.repeat(13) + "!((((((1))))))"));
         CHECK.due("they are closed again", 4, Check.say(x, "!!!!!!!!!!1|!!!!!!!!!!1&((((((((((1))))))))))|<a>1"));
     }
 
@@ -182,6 +188,8 @@ public final class PlansTest {
             "1||1", "1&|1", "1!1", "1<a>1", "1(1)", "1;", "may", "states 1;", "1\t", "1 $", "1 x", "1 1 $", "$ 1",
             "!!!!!!!!!!!1", "(((((((((((1", "!!!!!!!!!!<a>1", "!!!!!!!!!![a]1", "!!!!!!!!!!(1)",
             "<a><a><a><a><a><a><a><a><a><a>!1", "!!!!!!!!!!a", "!!!!!!!!!!", "0|(0|0|(0)", "(1]", "[a[", "1 " + (char) 128,
+            "[a][a][a][a][a][a][a][a][a][a][a]1", "<a><a><a><a><a><a><a><a><a><a><a>1", "!([a]!([a]!([a]!(1))))",
+            "!".repeat(300), "1".repeat(300), ";".repeat(300), "1" + " ".repeat(298) + "|",
             "11", "1a", "a1", "0 0", "!(1|0)0", "(1|0)&", "(1|)",
         };
         int[] places = {
@@ -190,6 +198,8 @@ public final class PlansTest {
             2, 2, 1, 1, 1, 1, 0, 0, 1, 2, 2, 2, 0,
             10, 10, 10, 10, 10,
             30, 10, 10, 10, 2, 2, 2,
+            30, 30, 16,
+            10, 0, 0, 300,
             0, 1, 0, 2, 6, 6, 3,
         };
         CHECK.due("rows", texts.length, places.length);
