@@ -14,7 +14,7 @@ public final class MadeTest {
     }
 
     private static void leastAndGreatest() {
-        MayMust x = new MayMust();
+        Counted x = new Counted();
         String text = "states 4;may 0 a 1;must 0 a 2;may 1 b 1;must 3 c 0;";
         Check.plan(x, 0, text);
         CHECK.due("least", 4, x.make(0, 0, 3));
@@ -29,7 +29,7 @@ public final class MadeTest {
     }
 
     private static void small(String what, String text, String want) {
-        MayMust x = new MayMust();
+        Counted x = new Counted();
         Check.plan(x, 1, text);
         int size = want.charAt(7) - '0';
         CHECK.due(what, size, x.make(1, 2, 2));
@@ -65,7 +65,7 @@ public final class MadeTest {
     }
 
     private static void makeRefused() {
-        MayMust x = new MayMust();
+        Counted x = new Counted();
         Check.plan(x, 0, "states 2;may 0 a 1;");
         for (int bad : new int[] {-1, 6, Integer.MIN_VALUE, Integer.MAX_VALUE}) {
             CHECK.due("make(bad, 0, 1)", MayMust.BAD, x.make(bad, 0, 1));
@@ -77,7 +77,7 @@ public final class MadeTest {
     }
 
     private static void join(String what, String left, String right, int mode, String want) {
-        MayMust x = new MayMust();
+        Counted x = new Counted();
         Check.plan(x, 0, left);
         Check.plan(x, 1, right);
         CHECK.due(what, want.charAt(7) - '0', x.join(0, 1, mode, 5));
@@ -92,7 +92,7 @@ public final class MadeTest {
     }
 
     private static void refuses(String what, String left, String right, int mode, int want) {
-        MayMust x = new MayMust();
+        Counted x = new Counted();
         Check.plan(x, 0, left);
         Check.plan(x, 1, right);
         Check.plan(x, 2, "states 3;may 1 b 2;");
@@ -160,7 +160,7 @@ public final class MadeTest {
     }
 
     private static void joinRefused() {
-        MayMust x = new MayMust();
+        Counted x = new Counted();
         for (int bad : new int[] {-1, 6, Integer.MIN_VALUE, Integer.MAX_VALUE}) {
             CHECK.due("join(bad, ..)", MayMust.BAD, x.join(bad, 0, 0, 0));
             CHECK.due("join(0, bad, ..)", MayMust.BAD, x.join(0, bad, 0, 0));

@@ -3,8 +3,9 @@ import java.util.Random;
 /** Runs of calls with fixed seeds: the class answers what the model answers. */
 public final class ModelTest {
     private static final Check CHECK = new Check();
-    private static final int RUNS = 4000;
-    private static final int CALLS = 512;
+    private static final int RUNS = 9000;
+    // Room for one more turn of calls (a text of 300 bytes, told and read) and for the look at the end.
+    private static final int LAST_TURN = Counted.MOST_CALLS - 50 - 140;
     private static int planFaults = 0;
     private static int sayFaults = 0;
     private static int plansRead = 0;
@@ -12,11 +13,10 @@ public final class ModelTest {
 
     private final Random random;
     private final int run;
-    private final MayMust x = new MayMust();
+    private final Counted x = new Counted();
     private final Model m = new Model();
     // How dense the plans of this run are, so that clashes and full joins come in some runs each.
     private final int density;
-    private int calls = 0;
 
     private ModelTest(int run) {
         this.run = run;
@@ -35,12 +35,11 @@ public final class ModelTest {
     }
 
     private void due(String call, int want, int got) {
-        calls++;
-        CHECK.due("run " + run + ", call " + calls + ": " + call, want, got);
+        CHECK.due("run " + run + ", call " + x.calls() + ": " + call, want, got);
     }
 
     private void play() {
-        while (calls < CALLS - 60) {
+        while (x.calls() < LAST_TURN) {
             switch (random.nextInt(14)) {
                 case 0, 1 -> tellPlan();
                 case 2, 3 -> tellSaying();
@@ -54,6 +53,9 @@ public final class ModelTest {
                 default -> typing();
             }
         }
+        looksWhole(random.nextInt(6));
+        walks();
+        counts();
     }
 
     /** Mostly a number below n, sometimes one beside it. */
@@ -168,16 +170,19 @@ public final class ModelTest {
         for (int what = 0; what < 3; what++) {
             due("states(" + i + ", " + what + ")", m.states(i, what), x.states(i, what));
         }
-        if (i >= 0 && i < 6) {
-            CHECK.due("run " + run + ", call " + calls + ": states", m.states(i, 0), x.states(i, 0));
-            for (int k = 0; k < 108; k++) {
-                int s = k / 18;
-                int l = k / 6 % 3;
-                int t = k % 6;
-                CHECK.due("run " + run + ", call " + calls + ": arrow(" + i + ", " + s + ", " + l + ", " + t + ")",
-                    m.arrow(i, s, l, t), x.arrow(i, s, l, t));
-            }
+        for (int k = 0; k < 6; k++) {
+            looksAt(i, stateOf(i), below(3), stateOf(i));
         }
+    }
+
+    private void looksWhole(int i) {
+        for (int k = 0; k < 108; k++) {
+            looksAt(i, k / 18, k / 6 % 3, k % 6);
+        }
+    }
+
+    private void looksAt(int i, int s, int letter, int t) {
+        due("arrow(" + i + ", " + s + ", " + letter + ", " + t + ")", m.arrow(i, s, letter, t), x.arrow(i, s, letter, t));
     }
 
     private void compare() {

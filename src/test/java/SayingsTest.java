@@ -17,7 +17,7 @@ public final class SayingsTest {
     }
 
     private static void values(String saying, int... want) {
-        MayMust x = new MayMust();
+        Counted x = new Counted();
         Check.plan(x, 3, PLAN);
         CHECK.that("'" + saying + "' is read", Check.say(x, saying) > 0);
         int[] found = new int[3];
@@ -107,7 +107,7 @@ public final class SayingsTest {
     }
 
     private static void later() {
-        MayMust x = new MayMust();
+        Counted x = new Counted();
         Check.plan(x, 0, PLAN);
         Check.say(x, "<a>1");
         CHECK.due("how(0, 1)", 1, x.how(0, 1));
@@ -121,7 +121,7 @@ public final class SayingsTest {
     }
 
     private static void refused() {
-        MayMust x = new MayMust();
+        Counted x = new Counted();
         Check.plan(x, 0, PLAN);
         for (int bad : new int[] {-1, 6, Integer.MIN_VALUE, Integer.MAX_VALUE}) {
             CHECK.due("value(bad, 0)", MayMust.BAD, x.value(bad, 0));

@@ -16,7 +16,7 @@ public final class StricterTest {
     }
 
     private static void why(String what, String left, String right, int round, int letter, int side) {
-        MayMust x = new MayMust();
+        Counted x = new Counted();
         Check.plan(x, 2, left);
         Check.plan(x, 4, right);
         CHECK.due(what + ": whether", round == 0 ? 1 : 0, x.stricter(2, 4, 0));
@@ -79,7 +79,7 @@ public final class StricterTest {
     }
 
     private static void allAtOnce() {
-        MayMust x = new MayMust();
+        Counted x = new Counted();
         // In a chain downwards each pair leans on one with lesser numbers: if the pairs of one round
         // were taken one by one, more of them would go in round 1.
         Check.plan(x, 0, "states 4;may 3 a 2;may 2 a 1;may 1 a 0;may 0 b 0;");
@@ -95,7 +95,7 @@ public final class StricterTest {
     }
 
     private static void stays() {
-        MayMust x = new MayMust();
+        Counted x = new Counted();
         Check.plan(x, 0, "states 3;must 0 a 1;may 0 b 2;may 1 c 0;must 1 c 2;");
         Check.plan(x, 5, "states 2;must 0 a 1;may 0 b 1;");
         int[][] rounds = {{2, 1}, {1, 1}, {1, 0}};
@@ -109,7 +109,7 @@ public final class StricterTest {
     }
 
     private static void alike() {
-        MayMust x = new MayMust();
+        Counted x = new Counted();
         Check.plan(x, 0, "states 2;must 0 a 1;must 1 a 0;");
         Check.plan(x, 1, "states 3;must 0 a 1;must 1 a 2;must 2 a 0;");
         Check.plan(x, 2, "states 2;must 0 a 1;may 1 a 0;");
@@ -124,7 +124,7 @@ public final class StricterTest {
     }
 
     private static void refused() {
-        MayMust x = new MayMust();
+        Counted x = new Counted();
         Check.plan(x, 0, "states 2;");
         for (int bad : new int[] {-1, 6, Integer.MIN_VALUE, Integer.MAX_VALUE}) {
             CHECK.due("stricter(bad, 0, 0)", MayMust.BAD, x.stricter(bad, 0, 0));

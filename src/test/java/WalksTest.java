@@ -12,7 +12,7 @@ public final class WalksTest {
         CHECK.end();
     }
 
-    private static void at(MayMust x, String when, int states, int may, int must, int gone) {
+    private static void at(Counted x, String when, int states, int may, int must, int gone) {
         CHECK.due(when + ": walk(0)", states, x.walk(0));
         CHECK.due(when + ": walk(1)", may, x.walk(1));
         CHECK.due(when + ": walk(2)", must, x.walk(2));
@@ -20,7 +20,7 @@ public final class WalksTest {
     }
 
     private static void walk() {
-        MayMust x = new MayMust();
+        Counted x = new Counted();
         Check.plan(x, 1, "states 4;may 0 a 1;must 0 a 2;may 0 c 0;must 1 b 3;must 2 b 3;may 2 a 2;may 3 a 0;must 3 a 3;");
         CHECK.due("begin(1)", 0, x.begin(1));
         at(x, "at first", 1, 5, 1, 0);
@@ -43,7 +43,7 @@ public final class WalksTest {
     }
 
     private static void mustInEach() {
-        MayMust x = new MayMust();
+        Counted x = new Counted();
         Check.plan(x, 0, "states 3;may 0 a 1;may 0 a 2;must 1 b 1;may 2 b 2;must 1 c 1;must 2 c 0;may 1 a 1;");
         x.begin(0);
         CHECK.due("a", 2, x.go(0));
@@ -53,7 +53,7 @@ public final class WalksTest {
     }
 
     private static void asItWas() {
-        MayMust x = new MayMust();
+        Counted x = new Counted();
         Check.plan(x, 0, "states 2;may 0 a 1;must 1 b 0;");
         x.begin(0);
         x.put(0, 0, 0, 1, 0);
@@ -69,7 +69,7 @@ public final class WalksTest {
     }
 
     private static void twoHundred() {
-        MayMust x = new MayMust();
+        Counted x = new Counted();
         Check.plan(x, 0, "states 1;may 0 a 0;");
         x.begin(0);
         for (int k = 1; k <= 200; k++) {
@@ -85,7 +85,7 @@ public final class WalksTest {
     }
 
     private static void refused() {
-        MayMust x = new MayMust();
+        Counted x = new Counted();
         Check.plan(x, 0, "states 2;may 0 a 1;must 1 b 0;");
         x.begin(0);
         x.go(0);
@@ -102,7 +102,7 @@ public final class WalksTest {
     }
 
     private static void count() {
-        MayMust x = new MayMust();
+        Counted x = new Counted();
         CHECK.due("count(0)", 6, x.count(0));
         Check.plan(x, 0, "states 6;");
         CHECK.due("count(0)", 11, x.count(0));
