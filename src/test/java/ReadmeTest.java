@@ -12,7 +12,7 @@ import java.util.regex.Matcher;
 import java.util.regex.Pattern;
 import javax.tools.ToolProvider;
 
-/** The example of README.md: it compiles as it stands there, and answers what it says behind //. */
+/** The example of README.md: it compiles (its calls with their answers kept), and answers what it says behind //. */
 public final class ReadmeTest {
     private static final Check CHECK = new Check();
     private static final Pattern BLOCK = Pattern.compile("(?s)```java\n(.*?)```");
